@@ -450,6 +450,7 @@ public final class OneTill {
             }
         }
 
+        /** What a till answers to an act. */
         static int says(int kind, int till, int act, int whole) {
             switch (kind) {
                 case DRAWER:
@@ -458,11 +459,11 @@ public final class OneTill {
                     if (act == PUT) {
                         return queued(till) < QUEUE_ROOM ? 1 : 0;
                     }
-                    return queued(till) > 0 ? 1 + firstQueued(till) : 0;
+                    return queued(till) > 0 ? 1 + (till >> 3 & 15) : 0;
                 case SET:
-                    return (act == PUT) != isIn(till, whole) ? 1 : 0;
+                    return act == PUT ? 1 - (till >> whole & 1) : till >> whole & 1;
                 case COUNTER:
-                    return after(kind, till, act, whole);
+                    return counted(till, act);
                 default:
                     if (act == SEE) {
                         return till;
@@ -471,55 +472,46 @@ public final class OneTill {
             }
         }
 
+        /** What a till is behind an act. */
         static int after(int kind, int till, int act, int whole) {
+            if (act == SEE) {
+                return till;
+            }
+            int n = queued(till);
             switch (kind) {
                 case DRAWER:
-                    return act == PUT ? whole : till;
+                    return whole;
                 case QUEUE:
-                    return act == PUT ? withQueued(till, whole) : withoutFirst(till);
-                case SET:
-                    if (act == SEE) {
-                        return till;
+                    if (act == PUT) {
+                        return n < QUEUE_ROOM ? till + 1 + (whole << 3 + 4 * n) : till;
                     }
+                    return n > 0 ? till >> 7 << 3 | n - 1 : till;
+                case SET:
                     return act == PUT ? till | 1 << whole : till & ~(1 << whole);
                 case COUNTER:
-                    if (act == SEE) {
-                        return till;
-                    }
-                    return act == PUT ? Math.min(till + 1, MOST_COUNTED) : Math.max(till - 1, 0);
+                    return counted(till, act);
                 default:
-                    if (act == SEE || purse(till, act) < whole) {
+                    if (purse(till, act) < whole) {
                         return till;
                     }
                     return act == PUT ? till - whole : till + whole;
             }
         }
 
-        private static boolean isIn(int set, int whole) {
-            return (set >> whole & 1) == 1;
+        private static int queued(int queue) {
+            return queue & 7;
+        }
+
+        private static int counted(int counter, int act) {
+            if (act == PUT) {
+                return counter < MOST_COUNTED ? counter + 1 : counter;
+            }
+            return act == TAKE && counter > 0 ? counter - 1 : counter;
         }
 
         /** What is in the purse that an act takes from. */
         private static int purse(int till, int act) {
             return act == PUT ? till : IN_BOTH_PURSES - till;
-        }
-
-        private static int queued(int queue) {
-            return queue & 7;
-        }
-
-        private static int firstQueued(int queue) {
-            return queue >> 3 & 15;
-        }
-
-        private static int withQueued(int queue, int whole) {
-            int n = queued(queue);
-            return n < QUEUE_ROOM ? queue + 1 + (whole << 3 + 4 * n) : queue;
-        }
-
-        private static int withoutFirst(int queue) {
-            int n = queued(queue);
-            return n > 0 ? queue >> 7 << 3 | n - 1 : queue;
         }
     }
 
@@ -649,8 +641,8 @@ public final class OneTill {
             }
         }
 
-        private int at(int[] row, int c) {
-            return has(c) ? row[c] : 0;
+        private static int at(int[] row, int c) {
+            return c >= 0 && c < row.length ? row[c] : 0;
         }
 
         int cashierOf(int c) {
@@ -819,46 +811,45 @@ public final class OneTill {
         }
 
         void next() {
-            place = behind;
-            for (int i = behind; i < length && byteAt(i) == ' '; i++) {
-                place = i + 1;
+            int i = behind;
+            while (i < length && bytes[i] == ' ') {
+                i++;
             }
-            int first = byteAt(place);
-            if (place >= length) {
+            place = i;
+            int first = i < length ? bytes[i] : 0;
+            if (i >= length) {
                 sort = END;
-                behind = place;
-            } else if (isLetter(first)) {
+                behind = i;
+            } else if (first >= 'a' && first <= 'z') {
                 readWord();
-            } else if (isDigit(first)) {
+            } else if (first >= '0' && first <= '9') {
                 readWhole();
             } else {
                 sort = first == ';' ? SEMICOLON : first == ',' ? COMMA : NO_TOKEN;
-                behind = place + 1;
+                behind = i + 1;
             }
         }
 
         private void readWord() {
+            int i = place;
             word = 0;
-            behind = place;
-            for (int i = place; i < length && isLetter(byteAt(i)); i++) {
-                if (i - place < MOST_LETTERS) {
-                    word = word * 32 + (byteAt(i) - 'a' + 1);
-                }
-                behind = i + 1;
+            while (i < length && bytes[i] >= 'a' && bytes[i] <= 'z') {
+                word = word * 32 + (bytes[i] - 'a' + 1);
+                i++;
             }
-            sort = behind - place <= MOST_LETTERS ? WORD : NO_TOKEN;
+            behind = i;
+            sort = i - place <= MOST_LETTERS ? WORD : NO_TOKEN;
         }
 
         private void readWhole() {
+            int i = place;
             whole = 0;
-            behind = place;
-            for (int i = place; i < length && isDigit(byteAt(i)); i++) {
-                if (i - place < MOST_DIGITS) {
-                    whole = whole * 10 + (byteAt(i) - '0');
-                }
-                behind = i + 1;
+            while (i < length && bytes[i] >= '0' && bytes[i] <= '9') {
+                whole = whole * 10 + (bytes[i] - '0');
+                i++;
             }
-            sort = behind - place <= MOST_DIGITS ? WHOLE : NO_TOKEN;
+            behind = i;
+            sort = i - place <= MOST_DIGITS ? WHOLE : NO_TOKEN;
         }
 
         boolean is(String told) {
@@ -866,7 +857,7 @@ public final class OneTill {
                 return false;
             }
             for (int i = 0; i < told.length(); i++) {
-                if (told.charAt(i) != byteAt(place + i)) {
+                if (told.charAt(i) != bytes[place + i]) {
                     return false;
                 }
             }
@@ -875,18 +866,6 @@ public final class OneTill {
 
         boolean isName() {
             return sort == WORD && !is("law") && !is("till") && !is("cashier") && !is("call") && !is("from");
-        }
-
-        private int byteAt(int i) {
-            return i >= 0 && i < length && i < ROOM ? bytes[i] : 0;
-        }
-
-        private static boolean isLetter(int b) {
-            return b >= 'a' && b <= 'z';
-        }
-
-        private static boolean isDigit(int b) {
-            return b >= '0' && b <= '9';
         }
     }
 
@@ -921,8 +900,23 @@ public final class OneTill {
             fault = 0;
             place = NONE;
             tape.beginText(n);
-            if (!lines(n)) {
-                return false;
+            // each line has a byte at least, so that there are no more of them than bytes
+            for (int i = 0; i <= n; i++) {
+                if (!line()) {
+                    return false;
+                }
+                if (tape.sort != Tape.SEMICOLON) {
+                    return mayEnd();
+                }
+                tape.next();
+            }
+            return faulty(FORM);
+        }
+
+        /** Whether the text may end here. */
+        private boolean mayEnd() {
+            if (tape.sort != Tape.END) {
+                return faulty(FORM);
             }
             if (!lawTold || shop.tills == 0 || shop.cashiers == 0) {
                 return faulty(LACKS);
@@ -935,23 +929,6 @@ public final class OneTill {
             fault = number;
             place = tape.place;
             return false;
-        }
-
-        /** Each line has a byte at least, so that there are no more of them than bytes. */
-        private boolean lines(int n) {
-            for (int i = 0; i <= n; i++) {
-                if (!line()) {
-                    return false;
-                }
-                if (tape.sort == Tape.END) {
-                    return true;
-                }
-                if (tape.sort != Tape.SEMICOLON) {
-                    return faulty(FORM);
-                }
-                tape.next();
-            }
-            return faulty(FORM);
         }
 
         private boolean line() {
@@ -1231,16 +1208,17 @@ public final class OneTill {
         private static final int LAST_BASE = 2000000000;
         private static final long MOST_WAYS = 1000000000000000000L;
 
+        /** The calls done, as bits; the tills; the stand that each cashier's next call leads to; all by stands. */
         private final int[] done = new int[ROWS];
         private final int[] tills = new int[MOST_TILLS * ROWS];
         private final int[] leads = new int[MOST_CASHIERS * ROWS];
         private final long[] ways = new long[ROWS];
         private final int[] table = new int[SLOTS];
         private final Shop shop;
-        /** What the table holds below it is of an earlier use, and counts as nothing. */
-        private int base = 1;
         private final Rules rules;
         private Calls calls = new Calls();
+        /** What the table holds below it is of an earlier use, and counts as nothing. */
+        private int base = 1;
         int count = 0;
 
         Stands(Shop shop, Rules rules) {
@@ -1255,7 +1233,7 @@ public final class OneTill {
             begin();
             for (int s = 0; s < count && s < MOST; s++) {
                 for (int k = 0; k < MOST_CASHIERS; k++) {
-                    leads[s * MOST_CASHIERS + k] = k < shop.cashiers ? leadOn(s, k) : NONE;
+                    leads[s * MOST_CASHIERS + k] = leadOn(s, rules.nextOf(k, done[s]));
                 }
                 if (count > MOST) {
                     return false;
@@ -1282,21 +1260,21 @@ public final class OneTill {
             count = 1;
         }
 
-        /** The stand that a cashier's next call leads to; NONE if it leads nowhere. */
-        private int leadOn(int s, int cashier) {
-            int c = rules.nextOf(cashier, doneAt(s));
-            if (c < 0 || count > MOST || answersOtherwise(s, c, rules.strict)) {
+        /** The stand that a call leads to, a new one in the row behind the last if need be; NONE if nowhere. */
+        private int leadOn(int s, int c) {
+            if (c < 0 || count > MOST || isOtherwise(s, c, rules.strict)) {
                 return NONE;
             }
-            done[count] = doneAt(s) | 1 << c;
+            int from = s * MOST_TILLS;
+            int to = count * MOST_TILLS;
             for (int t = 0; t < MOST_TILLS; t++) {
-                tills[count * MOST_TILLS + t] = tillAt(s, t);
+                tills[to + t] = tills[from + t];
             }
             int till = calls.tillOf(c);
             if (till >= 0 && till < MOST_TILLS) {
-                tills[count * MOST_TILLS + till] =
-                        Till.after(shop.kindOf(till), tillAt(s, till), calls.actOf(c), calls.wholeOf(c));
+                tills[to + till] = Till.after(shop.kindOf(till), tills[from + till], calls.actOf(c), calls.wholeOf(c));
             }
+            done[count] = done[s] | 1 << c;
             int found = find(count, -1);
             if (found == count) {
                 count++;
@@ -1304,12 +1282,17 @@ public final class OneTill {
             return found;
         }
 
-        /** The row of a stand like this one but for the calls that aren't looked at: this one if it is new. */
+        /** The stand like this one, but for the calls done that aren't looked at; this one if it is new. */
         private int find(int s, int looked) {
-            int slot = slotOf(s, looked);
+            int at = s * MOST_TILLS;
+            int h = (done[s] & looked) * 0x2C1B3C6D;
+            for (int t = 0; t < MOST_TILLS; t++) {
+                h = (h ^ h >>> 15 ^ tills[at + t]) * 0x297A2D39;
+            }
+            int slot = (h ^ h >>> 14) & SLOTS - 1;
             for (int tries = 0; tries < SLOTS; tries++) {
                 int r = table[slot] - base;
-                if (r < 0) {
+                if (r < 0 || r >= ROWS) {
                     table[slot] = base + s;
                     return s;
                 }
@@ -1321,69 +1304,67 @@ public final class OneTill {
             return NONE;
         }
 
-        private int slotOf(int s, int looked) {
-            int h = (doneAt(s) & looked) * 0x2C1B3C6D;
-            for (int t = 0; t < MOST_TILLS; t++) {
-                h = (h ^ h >>> 15 ^ tillAt(s, t)) * 0x297A2D39;
-            }
-            return (h ^ h >>> 14) & SLOTS - 1;
-        }
-
         private boolean alike(int r, int s, int looked) {
-            if (((doneAt(r) ^ doneAt(s)) & looked) != 0) {
+            if (((done[r] ^ done[s]) & looked) != 0) {
                 return false;
             }
             for (int t = 0; t < MOST_TILLS; t++) {
-                if (tillAt(r, t) != tillAt(s, t)) {
+                if (tills[r * MOST_TILLS + t] != tills[s * MOST_TILLS + t]) {
                     return false;
                 }
             }
             return true;
         }
 
-        int doneAt(int s) {
-            return s >= 0 && s < ROWS ? done[s] : 0;
+        private boolean has(int s) {
+            return s >= 0 && s < count && s < ROWS;
         }
 
-        private int tillAt(int s, int t) {
-            return s >= 0 && s < ROWS && t >= 0 && t < MOST_TILLS ? tills[s * MOST_TILLS + t] : 0;
+        int doneAt(int s) {
+            return has(s) ? done[s] : 0;
         }
 
         /** Where a cashier's next call leads to from a stand; NONE if nowhere. */
         int leadAt(int s, int k) {
-            return s >= 0 && s < ROWS && k >= 0 && k < MOST_CASHIERS ? leads[s * MOST_CASHIERS + k] : NONE;
+            return has(s) && k >= 0 && k < MOST_CASHIERS ? leads[s * MOST_CASHIERS + k] : NONE;
         }
 
-        private long waysAt(int s) {
-            return s >= 0 && s < ROWS ? ways[s] : 0;
-        }
-
-        /** The call by which a stand leads on. */
+        /** The call by which a stand leads on; NONE if there is none. */
         int callAt(int s, int k) {
-            return rules.nextOf(k, doneAt(s));
+            return has(s) ? rules.nextOf(k, done[s]) : NONE;
         }
 
+        /** What a call would answer behind a stand. */
         int answerAt(int s, int c) {
             int till = calls.tillOf(c);
-            return Till.says(shop.kindOf(till), tillAt(s, till), calls.actOf(c), calls.wholeOf(c));
+            if (!has(s) || till < 0 || till >= MOST_TILLS) {
+                return NONE;
+            }
+            return Till.says(shop.kindOf(till), tills[s * MOST_TILLS + till], calls.actOf(c), calls.wholeOf(c));
         }
 
-        private boolean answersOtherwise(int s, int c, int strict) {
-            return (strict >> c & 1) == 1 && answerAt(s, c) != calls.answerOf(c);
+        /** Whether a call, if it is one of the strict ones, would answer otherwise than it told. */
+        private boolean isOtherwise(int s, int c, int strict) {
+            if ((strict >> c & 1) == 0) {
+                return false;
+            }
+            int till = calls.tillOf(c);
+            int state = till >= 0 && till < MOST_TILLS ? tills[s * MOST_TILLS + till] : 0;
+            return Till.says(shop.kindOf(till), state, calls.actOf(c), calls.wholeOf(c)) != calls.answerOf(c);
         }
 
         /** How many orders there are that do those calls; behind each stand they are kept. */
         long countWays(int must) {
             for (int s = count - 1; s >= 0; s--) {
-                long n = (must & ~doneAt(s)) == 0 ? 1 : 0;
+                long n = (must & ~done[s]) == 0 ? 1 : 0;
                 for (int k = 0; k < MOST_CASHIERS; k++) {
-                    n += waysAt(leadAt(s, k));
+                    int r = leads[s * MOST_CASHIERS + k];
+                    // stands behind more calls have higher numbers, so that theirs are counted by now
+                    n += r > s && r < count ? ways[r] : 0;
                 }
-                if (s < ROWS) {
-                    ways[s] = Math.min(n, MOST_WAYS);
-                }
+                ways[s] = Math.min(n, MOST_WAYS);
             }
-            return waysAt(0);
+            return ways[0];
         }
 
         static long times(long a, long b) {
@@ -1394,14 +1375,14 @@ public final class OneTill {
         }
 
         boolean leadsToEnd(int s) {
-            return waysAt(s) > 0;
+            return has(s) && ways[s] > 0;
         }
 
         int countEnds() {
             forget();
             int n = 0;
             for (int s = 0; s < count; s++) {
-                if (rules.isEnd(doneAt(s)) && find(s, 0) == s) {
+                if (rules.isEnd(done[s]) && find(s, 0) == s) {
                     n++;
                 }
             }
@@ -1413,20 +1394,18 @@ public final class OneTill {
          * is an order in which none of the set answers otherwise than it told.
          */
         long setsThatCan(long[] setsOf, int ended) {
-            for (int s = 0; s < count && s < ROWS; s++) {
-                ways[s] = s == 0 ? -1L : 0L;
-            }
-            long can = 0;
+            Arrays.fill(ways, 0L);
+            ways[0] = -1L;
+            long can = 0L;
             for (int s = 0; s < count; s++) {
-                long sets = waysAt(s);
-                if (rules.isEnd(doneAt(s))) {
-                    can |= sets;
+                if (rules.isEnd(done[s])) {
+                    can |= ways[s];
                 }
                 for (int k = 0; k < MOST_CASHIERS; k++) {
-                    int r = leadAt(s, k);
-                    int c = callAt(s, k);
-                    if (r >= 0 && r < ROWS && c >= 0 && c < setsOf.length) {
-                        ways[r] |= answersOtherwise(s, c, ended) ? sets & ~setsOf[c] : sets;
+                    int r = leads[s * MOST_CASHIERS + k];
+                    int c = rules.nextOf(k, done[s]);
+                    if (r >= 0 && r < count && c >= 0 && c < setsOf.length) {
+                        ways[r] |= isOtherwise(s, c, ended) ? ways[s] & ~setsOf[c] : ways[s];
                     }
                 }
             }
@@ -1443,7 +1422,7 @@ public final class OneTill {
         private final Stands stands;
         private final Rules rules = new Rules();
         private final int[] path = new int[MOST_CALLS];
-        private final boolean[] could = new boolean[MOST_ANSWER + 1];
+        private final int[] could = new int[MOST_ANSWER + 1];
         private final int[] sets = new int[SETS_AT_ONCE];
         private final long[] setsOf = new long[MOST_CALLS];
         private int setCount = 0;
@@ -1455,30 +1434,25 @@ public final class OneTill {
 
         private boolean explore(Calls calls, int kind) {
             rules.takeAll(calls);
-            return exploreRules(calls, Rules.gapOf(kind, shop.late));
-        }
-
-        private boolean exploreRules(Calls calls, int gap) {
-            rules.bind(calls, gap);
+            rules.bind(calls, Rules.gapOf(kind, shop.late));
             return stands.explore(calls);
         }
 
+        /** How many orders the rules leave, with so many minutes bound. */
         private long countWays(Calls calls, int gap) {
-            return exploreRules(calls, gap) ? stands.countWays(rules.must) : OVER;
+            rules.bind(calls, gap);
+            return stands.explore(calls) ? stands.countWays(rules.must) : OVER;
         }
 
         long countOrders(Calls calls, int kind) {
-            if (kind == EACH) {
-                return countOrdersOfAllTills(calls);
+            if (kind != EACH) {
+                rules.takeAll(calls);
+                return countWays(calls, Rules.gapOf(kind, shop.late));
             }
-            rules.takeAll(calls);
-            return countWays(calls, Rules.gapOf(kind, shop.late));
-        }
-
-        private long countOrdersOfAllTills(Calls calls) {
             long product = 1;
             for (int t = 0; t < shop.tills; t++) {
-                long n = countOrdersOfTill(calls, t);
+                rules.takeSome(calls.onesOfTill(t), calls.endedOnes());
+                long n = countWays(calls, Rules.gapOf(ONE, shop.late));
                 if (n < 0) {
                     return OVER;
                 }
@@ -1489,7 +1463,7 @@ public final class OneTill {
 
         long countOrdersOfTill(Calls calls, int till) {
             rules.takeSome(calls.onesOfTill(till), calls.endedOnes());
-            return countWays(calls, Rules.gapOf(ONE, 0));
+            return countWays(calls, Rules.gapOf(ONE, shop.late));
         }
 
         int countStands(Calls calls, int kind) {
@@ -1586,7 +1560,7 @@ public final class OneTill {
                 if (!calls.isOpen(c)) {
                     rules.takeAll(calls);
                     rules.timed &= ~(1 << c);
-                    long n = countWays(calls, Rules.gapOf(ONE, 0));
+                    long n = countWays(calls, Rules.gapOf(ONE, shop.late));
                     if (n < 0) {
                         return OVER;
                     }
@@ -1625,16 +1599,17 @@ public final class OneTill {
         int findCould(Calls calls, int kind, int call) {
             rules.takeAll(calls);
             rules.strict &= ~(1 << call);
-            if (!exploreRules(calls, Rules.gapOf(kind, shop.late))) {
+            rules.bind(calls, Rules.gapOf(kind, shop.late));
+            if (!stands.explore(calls)) {
                 return OVER;
             }
             stands.countWays(rules.must);
-            Arrays.fill(could, false);
+            Arrays.fill(could, 0);
             int n = 0;
             for (int s = 0; s < stands.count; s++) {
                 int answer = answerOnTheWay(s, call);
-                if (answer >= 0 && answer < could.length && !could[answer]) {
-                    could[answer] = true;
+                if (answer >= 0 && answer < could.length && could[answer] == 0) {
+                    could[answer] = 1;
                     n++;
                 }
             }
@@ -1653,7 +1628,7 @@ public final class OneTill {
 
         int leastCould() {
             for (int v = 0; v < could.length; v++) {
-                if (could[v]) {
+                if (could[v] == 1) {
                     return v;
                 }
             }
@@ -1662,7 +1637,7 @@ public final class OneTill {
 
         int greatestCould() {
             for (int v = could.length - 1; v >= 0; v--) {
-                if (could[v]) {
+                if (could[v] == 1) {
                     return v;
                 }
             }
@@ -1675,7 +1650,8 @@ public final class OneTill {
             }
             rules.takeAll(calls);
             rules.strict = 0;
-            if (!exploreRules(calls, Rules.gapOf(kind, shop.late))) {
+            rules.bind(calls, Rules.gapOf(kind, shop.late));
+            if (!stands.explore(calls)) {
                 return OVER;
             }
             dropSets();
@@ -1785,7 +1761,7 @@ public final class OneTill {
             int ended = 0;
             for (int minute = 1; minute <= LAST_MINUTE; minute++) {
                 int k = draw(shop.cashiers);
-                if (k < MOST_CASHIERS && minuteOf(k, calls, machine, n, minute)) {
+                if (k >= 0 && k < MOST_CASHIERS && minuteOf(k, calls, machine, n, minute)) {
                     ended++;
                 }
                 if (ended == n) {
