@@ -31,6 +31,46 @@ final class Check {
         due(what + " trouble", x.trouble(), 0);
     }
 
+    /** That a boolean call is refused: false, and this trouble. */
+    static void no(String what, OneTill x, boolean got, int trouble) {
+        due(what, got, false);
+        due(what + " trouble", x.trouble(), trouble);
+    }
+
+    static void yes(String what, OneTill x, boolean got) {
+        due(what, got, true);
+        due(what + " trouble", x.trouble(), 0);
+    }
+
+    /** That a text is no book: its fault, its place, and that nothing came of it. */
+    static void fault(String text, int number, int place) {
+        OneTill x = new OneTill();
+        refused(text + " book", x, book(x, text), 4);
+        due(text + " fault", x.fault(), number);
+        due(text + " where", x.where(), place);
+        due(text + " tape", x.told(7), 0);
+        for (int w = 0; w < 7; w++) {
+            due(text + " told " + w, x.told(w), 0);
+        }
+        refused(text + " no book", x, x.can(0), 1);
+    }
+
+    /** That a text is a book of so many calls. */
+    static void good(String text, int calls) {
+        OneTill x = new OneTill();
+        fine(text + " book", x, book(x, text), calls);
+        due(text + " fault", x.fault(), 0);
+        due(text + " where", x.where(), -1);
+        due(text + " told(2)", x.told(2), calls);
+    }
+
+    /** That a call of a book has a cashier, a till, an act, a whole, a begin, an end and an answer. */
+    static void seen(String what, OneTill x, int c, int... due) {
+        for (int w = 0; w < due.length; w++) {
+            fine(what + " call(" + c + ", " + w + ")", x, x.call(c, w), due[w]);
+        }
+    }
+
     static void ledThrows(String what, OneTill x, int i) {
         boolean thrown = false;
         try {
