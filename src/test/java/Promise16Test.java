@@ -7,6 +7,7 @@ public final class Promise16Test {
         ofLikeOnesTheLeastBits();
         ofTwoAndThree();
         threeDontDo();
+        anyTwoAndThreeOfTwelve();
         openOnesAreNotInIt();
         twelveAndThirteenCalls();
         openOnesAreCalls();
@@ -76,7 +77,7 @@ public final class Promise16Test {
         Check.fine("three of four", x, x.core(0), 11);
     }
 
-    /** All seven found room for what they put, and there is room for six. */
+    /** Any three of four may have found what the fourth one put, but not all four. */
     private static void threeDontDo() {
         StringBuilder text = new StringBuilder("law late 0;till s is set;cashier a,b,c,d");
         for (int i = 0; i < 4; i++) {
@@ -94,6 +95,38 @@ public final class Promise16Test {
         Check.fine("two puts", x, x.core(0), 3);
         x.lose(0);
         Check.fine("one put", x, x.core(0), 1);
+    }
+
+    /** Twelve calls; those told by bits put the same into a set, all others see nothing in a drawer. */
+    private static OneTill putting(int bits, int told) {
+        StringBuilder text = new StringBuilder("law late 99;till s is set;till t is drawer;cashier a,b,c,d");
+        for (int i = 0; i < 12; i++) {
+            boolean puts = (bits >> i & 1) == 1;
+            text.append(";call ").append("abcd".charAt(i % 4)).append(puts ? " s put 1" : " t see");
+            text.append(" from ").append(i / 4).append(" to ").append(i / 4).append(" told ").append(puts ? told : 0);
+        }
+        return Check.of(text.toString());
+    }
+
+    private static void anyTwoAndThreeOfTwelve() {
+        for (int bits = 1; bits < 1 << 12; bits++) {
+            int n = Integer.bitCount(bits);
+            // of one cashier's calls one comes ahead of the other, which leaves fewer to be told
+            if (n > Integer.bitCount((bits | bits >> 4 | bits >> 8) & 15)) {
+                continue;
+            }
+            if (n == 2) {
+                OneTill x = putting(bits, 1);
+                Check.fine("two that both put it first: " + bits, x, x.core(1), bits);
+                Check.fine("LATE by 99: " + bits, x, x.core(2), bits);
+            } else if (n == 3) {
+                OneTill x = putting(bits, 0);
+                Check.fine("three that found it: " + bits, x, x.core(1), bits);
+            } else if (n == 4) {
+                OneTill x = putting(bits, 0);
+                Check.fine("four that found it: " + bits, x, x.core(1), -3);
+            }
+        }
     }
 
     private static void openOnesAreNotInIt() {

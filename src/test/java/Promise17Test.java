@@ -108,5 +108,11 @@ public final class Promise17Test {
         Check.refused("6,001 of ONE", x, x.mends(), 3);
         x = Books.just(0);
         Check.refused("6,000 of ONE, and an order", x, x.mends(), 5);
+        x = Check.of(Books.MENDS_JUST);
+        Check.fine("no order", x, x.can(0), 0);
+        Check.fine("6,000 at most with any end behind all", x, x.mends(), 0);
+        x = Check.of(Books.MENDS_OVER);
+        Check.fine("no order", x, x.can(0), 0);
+        Check.refused("6,001 with some end behind all", x, x.mends(), 3);
     }
 }

@@ -66,6 +66,20 @@ final class Books {
             + "call c p put5 from26to26told1;call b p put9 from6to11told0;call b p put8 from12to19told0;"
             + "call d p put2 from6to13told0;call d p put6 from14to19told0";
 
+    /** No order ONE, few stands of it; 6,000 at most with the end of any one call behind all. */
+    static final String MENDS_JUST = "law late 0;till p is queue;cashier a,b,c,d;call a p put7 from0to7told1;"
+            + "call b p take from2to9told0;call c p put9 from4to11told1;call d p put0 from6to13told1;"
+            + "call a p put1 from8to15told1;call b p put8 from10to17told1;call c p put4 from12to19told1;"
+            + "call d p put1 from14to21told0;call a p take from16open;call b p put0 from18open;"
+            + "call c p put6 from20open;call d p put0 from22to29told1;call d p take from30to30told99";
+
+    /** No order ONE, few stands of it; 6,001 with the end of some call behind all. */
+    static final String MENDS_OVER = "law late 0;till p is queue;cashier a,b,c,d;call a p put4 from0to7told1;"
+            + "call b p put7 from2to9told1;call c p put3 from4to11told1;call d p put2 from6to13told1;"
+            + "call a p put1 from8to15told1;call b p put2 from10to17told1;call c p put8 from12to19told0;"
+            + "call d p put8 from14open;call a p put6 from16open;call b p take from18open;"
+            + "call c p put8 from20to27told0;call c p take from28to28told99";
+
     private Books() {
     }
 
