@@ -67,6 +67,17 @@ public final class Promise18Test {
         x.late(99);
         Check.refused("by 99 there are too many, but they aren't asked", x, x.can(2), 3);
         Check.fine("still", x, x.enough(), 0);
+        OneTill y = Check.of(Books.ENOUGH_OVER);
+        Check.refused("6,001 by the minutes that would be enough", y, y.enough(), 3);
+        Check.yes("lose", y, y.lose(0));
+        Check.fine("6,000 by them", y, y.enough(), 2);
+        for (int m = 0; m <= 2; m++) {
+            y.late(m);
+            Check.fine("by " + m, y, y.can(2), m == 2 ? 1 : 0);
+        }
+        Check.fine("6,000", y, y.stands(2), 6000);
+        y.late(9);
+        Check.refused("more by more", y, y.stands(2), 3);
         // the last answer can't be: each minute is asked up to one of too many stands
         x.answer(12, 99);
         Check.fine("none by no minute", x, x.can(0), 0);

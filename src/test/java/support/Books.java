@@ -80,6 +80,14 @@ final class Books {
             + "call d p put8 from14open;call a p put6 from16open;call b p take from18open;"
             + "call c p put8 from20to27told0;call c p take from28to28told99";
 
+    /** Two minutes are enough, but by them there are 6,001 stands; without call 0 there are 6,000. */
+    static final String ENOUGH_OVER = "law late 0;till p is queue;till q is queue;till r is drawer;cashier a,b,c,d;"
+            + "call a p take from0to0told0;call a p take from1to1told0;call b p put7 from5to5told1;"
+            + "call d p put7 from5to5told1;call a p put0 from5to5told1;call d r put7 from6to6told0;"
+            + "call c p put1 from5to6told1;call c p put8 from7to8told1;call c p take from9to10told8;"
+            + "call b p put6 from6to6told1;call b p put2 from7to7told1;call d q put7 from7to8told1;"
+            + "call a p put5 from6open;call d p put3 from9to9told0;call b r see from8to9told7";
+
     private Books() {
     }
 
